@@ -12,6 +12,7 @@ public final class ChangesTest {
         undoAndGoOn();
         refusedCallsAreNoChanges();
         scriptIsOneChange();
+        minutesThatWereWrittenOver();
         whatUndoLeaves();
         changesWithoutEffect();
         snapshot();
@@ -110,6 +111,20 @@ public final class ChangesTest {
         CHECK.due("all of it", "0 1 0 0",
                 salon.spoonCount() + " " + salon.proposalCount() + " " + salon.wetCells() + " " + salon.motionCount());
         CHECK.due("the next id", 1, salon.propose(1));
+    }
+
+    private static void minutesThatWereWrittenOver() {
+        TeaspoonSalon salon = Setting.withSpoons(1, 50);
+        for (int id = 0; id < 21; id++) {
+            salon.propose(50);
+            salon.moveMain(id);
+            salon.vote();
+        }
+        CHECK.refused("minute", NoSuchElementException.class, () -> salon.minute(0));
+        salon.undo();
+        CHECK.due("minutesCount", 20, salon.minutesCount());
+        CHECK.due("minute", 0, salon.minute(0));
+        CHECK.due("minute", 19, salon.minute(19));
     }
 
     private static void whatUndoLeaves() {

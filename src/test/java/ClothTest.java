@@ -88,6 +88,11 @@ public final class ClothTest {
         }
         CHECK.due("puddleCount", 3, salon.puddleCount());
         CHECK.due("largestPuddle", 7, salon.largestPuddle());
+        TeaspoonSalon one = new TeaspoonSalon();
+        one.spill(0, 0, 1);
+        CHECK.due("puddleCount of one cell", 1, one.puddleCount());
+        CHECK.due("largestPuddle of one cell", 1, one.largestPuddle());
+        CHECK.due("isConsistent", true, one.isConsistent());
         int[][] sizes = {{0, 7, 1}, {1, 0, 1}, {2, 2, 7}, {3, 0, 7}, {3, 3, 7}, {0, 0, 0}, {7, 7, 0}, {2, 3, 0}};
         for (int[] size : sizes) {
             CHECK.due("puddle", size[2], salon.puddle(size[0], size[1]));

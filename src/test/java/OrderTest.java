@@ -9,6 +9,7 @@ public final class OrderTest {
         lowerIdsFirst();
         neitherBeats();
         withoutSpoons();
+        firstQuestions();
         CHECK.end();
     }
 
@@ -90,6 +91,24 @@ public final class OrderTest {
         salon.vote();
         CHECK.due("list", "1@0,2@99,3@1", Setting.list(salon));
         expect(salon, 6, "231", "23");
+    }
+
+    /** Each query answers rightly when nothing was asked before. */
+    private static void firstQuestions() {
+        CHECK.due("fewestDisagreements", 3, twoSides().fewestDisagreements());
+        CHECK.due("fewestDisagreementsByOrders", 3, twoSides().fewestDisagreementsByOrders());
+        CHECK.due("bestOrder", 1, twoSides().bestOrder(0));
+        CHECK.due("isInTop", false, twoSides().isInTop(0));
+        CHECK.due("isInTop", true, twoSides().isInTop(1));
+        CHECK.due("isInTopBySets", false, twoSides().isInTopBySets(0));
+        CHECK.due("isInTopBySets", true, twoSides().isInTopBySets(1));
+    }
+
+    private static TeaspoonSalon twoSides() {
+        TeaspoonSalon salon = Setting.withSpoons(3, 10, 4, 90);
+        salon.propose(10);
+        salon.propose(90);
+        return salon;
     }
 
     private static void withoutSpoons() {

@@ -48,7 +48,8 @@ public final class ScriptTest {
         CHECK.due("leading zeros", 2, Setting.run(salon, "propose 00;propose 05"));
         CHECK.due("list", "0@10,1@0,2@5", Setting.list(salon));
         TeaspoonSalon other = new TeaspoonSalon();
-        CHECK.due("no change", 3, Setting.run(other, "propose 5;move 0;amend -0"));
+        CHECK.due("no change", 4, Setting.run(other, "propose 5;propose 6;move 1;amend -0"));
+        CHECK.due("mainProposal", 1, other.mainProposal());
         CHECK.due("amendment", 0, other.amendment());
     }
 
