@@ -1,4 +1,3 @@
-import java.util.ArrayList;
 import java.util.List;
 import java.util.NoSuchElementException;
 
@@ -29,26 +28,36 @@ public final class ChangesTest {
                 () -> salon.mop(2, 2), () -> salon.giveSugar(0, 4), () -> Setting.run(salon, "spill 11 3;propose 1"));
     }
 
-    private static void undoEveryCommand() {
+    /** A salon after the first so many commands. */
+    private static TeaspoonSalon after(int count) {
         TeaspoonSalon salon = new TeaspoonSalon();
-        List<Check.Call> commands = commands(salon);
-        List<String> portraits = new ArrayList<>();
-        for (Check.Call command : commands) {
-            String before = Setting.portrait(salon);
-            portraits.add(before);
+        for (Check.Call command : commands(salon).subList(0, count)) {
             command.answer();
-            String after = Setting.portrait(salon);
-            CHECK.due("it changes something", false, before.equals(after));
+        }
+        return salon;
+    }
+
+    private static void undoEveryCommand() {
+        int all = commands(new TeaspoonSalon()).size();
+        for (int count = 1; count <= all; count++) {
+            String before = Setting.portrait(after(count - 1));
+            String changed = Setting.portrait(after(count));
+            CHECK.due("change " + count + " changes something", false, before.equals(changed));
+            TeaspoonSalon salon = after(count);
             salon.undo();
-            CHECK.due("undo of change " + portraits.size(), before, Setting.portrait(salon));
-            command.answer();
-            CHECK.due("again", after, Setting.portrait(salon));
+            CHECK.due("undo of change " + count, before, Setting.portrait(salon));
+            commands(salon).get(count - 1).answer();
+            CHECK.due("change " + count + " again", changed, Setting.portrait(salon));
         }
-        for (int left = 7; left >= 0; left--) {
-            CHECK.due("undo", left, salon.undo());
-            CHECK.due("portrait", portraits.remove(portraits.size() - 1), Setting.portrait(salon));
+        for (int undone = 1; undone <= 8; undone++) {
+            TeaspoonSalon salon = after(all);
+            int left = 0;
+            for (int change = 0; change < undone; change++) {
+                left = salon.undo();
+            }
+            CHECK.due("undo", 8 - undone, left);
+            CHECK.due("portrait", Setting.portrait(after(all - undone)), Setting.portrait(salon));
         }
-        CHECK.refused("undo", IllegalStateException.class, salon::undo);
     }
 
     private static void eightChanges() {
@@ -84,23 +93,27 @@ public final class ChangesTest {
         CHECK.due("wetCells", 6, salon.wetCells());
     }
 
-    private static void refusedCallsAreNoChanges() {
-        TeaspoonSalon salon = Setting.withSpoons(1, 50);
-        String before = Setting.portrait(salon);
-        List<Check.Call> wrong = List.of(
+    private static List<Check.Call> wrongCalls(TeaspoonSalon salon) {
+        return List.of(
                 () -> salon.addSpoon(0, 0), () -> salon.propose(100), () -> salon.moveMain(0),
                 () -> salon.moveAmendment(1), salon::movePostponement, salon::moveClosure, () -> salon.speak(0),
                 salon::vote, () -> salon.spill(0, 0, 0), () -> salon.mop(0, 0), () -> salon.giveSugar(0, 0),
                 salon::runScript, () -> Setting.run(salon, "vote"));
-        for (Check.Call call : wrong) {
-            CHECK.due("refused", true, String.valueOf(Check.answerOf(call)).startsWith("throws "));
+    }
+
+    private static void refusedCallsAreNoChanges() {
+        String before = Setting.portrait(Setting.withSpoons(1, 50));
+        for (int wrong = 0; wrong < wrongCalls(new TeaspoonSalon()).size(); wrong++) {
+            TeaspoonSalon salon = Setting.withSpoons(1, 50);
+            Object answer = Check.answerOf(wrongCalls(salon).get(wrong));
+            CHECK.due("refused", true, String.valueOf(answer).startsWith("throws "));
             CHECK.due("portrait", before, Setting.portrait(salon));
+            salon.isConsistent();
+            salon.renderList();
+            salon.type('v');
+            salon.save();
+            CHECK.due("one change alone", 0, salon.undo());
         }
-        salon.isConsistent();
-        salon.renderList();
-        salon.type('v');
-        salon.save();
-        CHECK.due("one change alone", 0, salon.undo());
     }
 
     private static void scriptIsOneChange() {

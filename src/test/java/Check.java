@@ -22,12 +22,35 @@ final class Check {
         due(what, "throws " + want.getSimpleName(), answerOf(call));
     }
 
+    interface CallAt {
+        Object answer(int index);
+    }
+
+    /** Of the numbers at and about the ends of int, of zero and of the count, those from 0 to count - 1 alone are taken. */
+    void takesBelow(int count, String what, Class<? extends RuntimeException> want, CallAt call) {
+        int[] edges = {Integer.MIN_VALUE, -2, -1, 0, count - 1, count, count + 1, Integer.MAX_VALUE};
+        for (int index : edges) {
+            String answer = String.valueOf(answerOf(() -> call.answer(index)));
+            boolean isTaken = index >= 0 && index < count;
+            due(what + " of " + index, isTaken ? "an answer" : "throws " + want.getSimpleName(),
+                    answer.startsWith("throws ") ? answer : "an answer");
+        }
+    }
+
     static Object answerOf(Call call) {
         try {
             return call.answer();
         } catch (RuntimeException thrown) {
             return "throws " + thrown.getClass().getSimpleName();
         }
+    }
+
+    int answers() {
+        return answers;
+    }
+
+    int wrong() {
+        return wrong;
     }
 
     void end() {

@@ -1,3 +1,5 @@
+import java.util.function.Supplier;
+
 /** What several tests need before they begin. */
 final class Setting {
     private Setting() {
@@ -10,6 +12,45 @@ final class Setting {
             salon.addSpoon(weightsAndStances[i], weightsAndStances[i + 1]);
         }
         return salon;
+    }
+
+    static TeaspoonSalon eightSpoons() {
+        return withSpoons(1, 0, 9, 99, 3, 30, 4, 40, 5, 50, 6, 60, 7, 70, 8, 80);
+    }
+
+    /** Puts proposals at these positions at the end of the list. */
+    static TeaspoonSalon propose(TeaspoonSalon salon, int... positions) {
+        for (int position : positions) {
+            salon.propose(position);
+        }
+        return salon;
+    }
+
+    static TeaspoonSalon withList(int... positions) {
+        return propose(new TeaspoonSalon(), positions);
+    }
+
+    /** Makes motions of these kinds: a main motion about the first proposal, an amendment by 1. */
+    static TeaspoonSalon move(TeaspoonSalon salon, String kinds) {
+        for (char kind : kinds.toCharArray()) {
+            move(salon, kind);
+        }
+        return salon;
+    }
+
+    static int move(TeaspoonSalon salon, char kind) {
+        switch (kind) {
+            case 'm':
+                return salon.moveMain(salon.proposalAt(0));
+            case 'a':
+                return salon.moveAmendment(1);
+            case 'p':
+                return salon.movePostponement();
+            case 'c':
+                return salon.moveClosure();
+            default:
+                return salon.moveAdjournment();
+        }
     }
 
     static int type(TeaspoonSalon salon, String script) {
@@ -66,6 +107,38 @@ final class Setting {
         for (int cell = 0; cell < 64; cell++) {
             text.append(salon.isWet(cell / 8, cell % 8) ? '#' : '.');
         }
+        return text.toString();
+    }
+
+    /**
+     * All that later calls can tell of what was done with a salon: now, after each number of calls to undo, and after
+     * the snapshot was restored. An object serves for 512 calls, so each look is at another one with the same past.
+     */
+    static String aftermath(Supplier<TeaspoonSalon> past) {
+        StringBuilder text = new StringBuilder();
+        for (int undone = 0; undone < 10; undone++) {
+            TeaspoonSalon salon = past.get();
+            for (int change = 0; change < undone; change++) {
+                text.append(Check.answerOf(salon::undo)).append(' ');
+            }
+            text.append(portrait(salon)).append(Check.answerOf(() -> salon.propose(1))).append('\n');
+        }
+        TeaspoonSalon restored = past.get();
+        text.append(Check.answerOf(restored::restore)).append(' ').append(portrait(restored));
+        text.append(Check.answerOf(() -> restored.propose(1))).append('\n');
+        return text.append(surroundings(past.get())).toString();
+    }
+
+    /** What undo and the snapshot do not cover. */
+    private static String surroundings(TeaspoonSalon salon) {
+        StringBuilder text = new StringBuilder();
+        for (int index = 0; index < 40; index++) {
+            int at = index;
+            text.append(Check.answerOf(() -> salon.outputAt(at))).append(' ');
+        }
+        text.append(Check.answerOf(salon::errorPosition)).append(' ').append(Check.answerOf(salon::failedCommand));
+        text.append(' ').append(Check.answerOf(() -> salon.type(';'))).append(' ');
+        text.append(Check.answerOf(salon::runScript)).append(' ').append(Check.answerOf(salon::errorPosition));
         return text.toString();
     }
 }
