@@ -202,6 +202,11 @@ public final class ScriptAndChangeTermsTest {
                     check.refused(script, IllegalStateException.class, () -> Setting.run(before, script));
                     check.due("none took effect of " + script, portrait, Setting.portrait(before));
                     check.due("the next id", 3, before.propose(1));
+                    check.due("another script", 1, Setting.run(before, "sugar 0 1"));
+                    TeaspoonSalon without = prepared();
+                    without.propose(1);
+                    without.giveSugar(0, 1);
+                    check.due("that one alone", Setting.portrait(without), Setting.portrait(before));
                 }
             }
         });

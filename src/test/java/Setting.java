@@ -121,12 +121,23 @@ final class Setting {
             for (int change = 0; change < undone; change++) {
                 text.append(Check.answerOf(salon::undo)).append(' ');
             }
-            text.append(portrait(salon)).append(Check.answerOf(() -> salon.propose(1))).append('\n');
+            text.append(portrait(salon)).append(future(salon)).append('\n');
         }
         TeaspoonSalon restored = past.get();
         text.append(Check.answerOf(restored::restore)).append(' ').append(portrait(restored));
-        text.append(Check.answerOf(() -> restored.propose(1))).append('\n');
+        text.append(future(restored)).append('\n');
         return text.append(surroundings(past.get())).toString();
+    }
+
+    /** The votes on all that lies on the table and on the first proposal, then the next id, as there is room for one. */
+    private static String future(TeaspoonSalon salon) {
+        StringBuilder text = new StringBuilder();
+        for (int vote = 0; vote < 5; vote++) {
+            text.append(' ').append(Check.answerOf(salon::vote));
+        }
+        text.append(' ').append(Check.answerOf(() -> salon.moveMain(salon.proposalAt(0))));
+        text.append(' ').append(Check.answerOf(salon::vote));
+        return text.append(' ').append(Check.answerOf(() -> salon.propose(1))).toString();
     }
 
     /** What undo and the snapshot do not cover. */
