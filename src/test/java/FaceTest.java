@@ -19,9 +19,14 @@ public final class FaceTest {
     private static final Path DOCUMENT = Path.of("../shared/DOC.md");
     private static final Path SOURCE = Path.of("src/main/java/TeaspoonSalon.java");
     private static final String[] FORBIDDEN = {
-        "->", "::", "\\bcatch\\b", "\\bfinally\\b", "\\bsynchronized\\b", "\\bassert\\b", "Exact\\(",
+        "->", "::", "\\btry\\b", "\\bcatch\\b", "\\bfinally\\b", "\\bsynchronized\\b", "\\bassert\\b", "Exact\\(",
         "\\bSystem\\.(?!arraycopy)", "\\bString\\.", "\\bstatic\\s*\\{", "\\bpackage\\b", "import (?!java.util.NoSuch)",
+        "\\bMath\\.(?!(abs|min|max|floorMod)\\b)", "\\b(Integer|Long)\\.(?!bitCount\\b)", "\"\\s*\\+", "\\+\\s*\"",
+        "\\b(equals|hashCode|toString)\\(", "\\bthrow (?!new \\w+Exception\\(\"[^\"]*\"\\);)",
     };
+    private static final int MOST_PARAMETERS = 7;
+    private static final int MOST_FIELDS = 20;
+    private static final int MOST_LINES = 60;
 
     public static void main(String[] args) throws IOException {
         Check check = new Check();
@@ -32,6 +37,8 @@ public final class FaceTest {
         check.due("modifiers", Modifier.PUBLIC | Modifier.FINAL, TeaspoonSalon.class.getModifiers());
         check.due("members seen that are not of the face", List.of(), visibleOthers());
         check.due("private methods with a public name", List.of(), sharedNames());
+        check.due("methods with too many parameters", List.of(), withTooManyParameters());
+        check.due("classes with too many fields", List.of(), withTooManyFields());
         scanSource(check);
         check.end();
     }
@@ -101,9 +108,7 @@ public final class FaceTest {
             }
         }
         List<String> shared = new ArrayList<>();
-        List<Class<?>> classes = new ArrayList<>(Arrays.asList(TeaspoonSalon.class.getDeclaredClasses()));
-        classes.add(TeaspoonSalon.class);
-        for (Class<?> type : classes) {
+        for (Class<?> type : classes()) {
             for (Method method : type.getDeclaredMethods()) {
                 if (!Modifier.isPublic(method.getModifiers()) && names.contains(method.getName())) {
                     shared.add(type.getSimpleName() + "." + method.getName());
@@ -113,6 +118,50 @@ public final class FaceTest {
         return shared;
     }
 
+    private static List<Class<?>> classes() {
+        List<Class<?>> classes = new ArrayList<>(Arrays.asList(TeaspoonSalon.class.getDeclaredClasses()));
+        classes.add(TeaspoonSalon.class);
+        return classes;
+    }
+
+    private static List<String> withTooManyParameters() {
+        List<String> names = new ArrayList<>();
+        for (Class<?> type : classes()) {
+            for (Method method : type.getDeclaredMethods()) {
+                if (method.getParameterCount() > MOST_PARAMETERS) {
+                    names.add(type.getSimpleName() + "." + method.getName());
+                }
+            }
+        }
+        return names;
+    }
+
+    private static List<String> withTooManyFields() {
+        List<String> names = new ArrayList<>();
+        for (Class<?> type : classes()) {
+            long fields = Arrays.stream(type.getDeclaredFields())
+                    .filter(field -> !Modifier.isStatic(field.getModifiers())).count();
+            if (fields > MOST_FIELDS) {
+                names.add(type.getSimpleName());
+            }
+        }
+        return names;
+    }
+
+    /** A method's first line stands at the depth of its class and ends with a brace, its last one is a brace below it. */
+    private static List<String> longMethods(String source) {
+        List<String> names = new ArrayList<>();
+        Pattern firstLine = Pattern.compile("(?m)^((?: {4}){1,2})(?=\\w)(?!.*\\b(class|enum|interface) )(.*\\{)$");
+        Matcher method = firstLine.matcher(source);
+        while (method.find()) {
+            int end = source.indexOf("\n" + method.group(1) + "}\n", method.end());
+            if (end < 0 || source.substring(method.start(), end).lines().count() >= MOST_LINES) {
+                names.add(method.group(3));
+            }
+        }
+        return names;
+    }
+
     private static void scanSource(Check check) throws IOException {
         String source = Files.readString(SOURCE);
         String code = source.replaceAll("(?s)/\\*.*?\\*/", "").replaceAll("//.*", "");
@@ -120,6 +169,7 @@ public final class FaceTest {
             check.due("source with " + forbidden, false, Pattern.compile(forbidden).matcher(code).find());
         }
         check.due("signs outside ASCII", true, source.chars().allMatch(sign -> sign == '\n' || sign >= 32 && sign < 127));
+        check.due("long methods", List.of(), longMethods(source));
         check.due("at most twelve classes", true, code.split("\\b(class|enum|interface|record)\\s+[A-Z]").length <= 13);
     }
 }
